@@ -646,7 +646,6 @@ public final class GuardRolls {
             return NONE;
         }
         book.become(kept);
-        book.reckon();
         acts.forgetAll();
         return book.entries;
     }
@@ -1202,7 +1201,7 @@ public final class GuardRolls {
         }
     }
 
-    /** The RULES and all that is told behind them; what an IMAGE keeps. */
+    /** The RULES and all that is told behind them, which an IMAGE keeps. */
     private static final class Book {
         final int[] rule = new int[RULES.length];
         int guardians = 0;
@@ -1240,8 +1239,8 @@ public final class GuardRolls {
             orders = 0;
         }
 
+        /** All but the RULES: with other RULES the IMAGE is gone. */
         void become(Book other) {
-            System.arraycopy(other.rule, 0, rule, 0, RULES.length);
             System.arraycopy(other.bonds, 0, bonds, 0, MAX_GUARDIANS);
             guardians = other.guardians;
             wards = other.wards;

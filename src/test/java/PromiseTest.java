@@ -1354,7 +1354,7 @@ public final class PromiseTest {
             x.undo();
         }
         x.ward(-8000, 1);
-        x.change(0, 200, 1);
+        due("49: another CHANGE", x.change(0, 200, 0), 1);
         x.order(0, 1, 360, 719, 50);
         x.receive(0, 6, 80, 2);
         due("49: ENTRIES", x.back(), 1);

@@ -10,7 +10,7 @@ import java.util.function.ToIntFunction;
  * Asks at the edges of what the document bounds: each call on a new object, what it answers, which
  * STATUS it counts in, and, if it is refused, that it leaves all as it was.
  */
-final class Edges {
+abstract class Edges {
     /** A call of the face on an object. */
     interface Call extends ToIntFunction<GuardRolls> {
     }
@@ -46,12 +46,32 @@ final class Edges {
         askOfGuardians();
     }
 
-    private final Checks checks;
+    /** No RULES, nobody. */
+    static final Scene NOBODY = GuardRolls::new;
+
+    final Checks checks = new Checks();
     private Scene lastScene = null;
     private int[][] lastAnswers = null;
 
-    Edges(Checks checks) {
-        this.checks = checks;
+    /** A state, and then these calls. */
+    static Scene but(Scene scene, Call... calls) {
+        return () -> {
+            GuardRolls x = scene.get();
+            for (Call call : calls) {
+                call.applyAsInt(x);
+            }
+            return x;
+        };
+    }
+
+    /** The answer that stands for a place. */
+    static int at(int asked, int[] places, int[] answers) {
+        for (int i = 0; i < places.length; i++) {
+            if (places[i] == asked) {
+                return answers[i];
+            }
+        }
+        throw new IllegalStateException("no answer for " + asked);
     }
 
     // ---- what is asked to see a whole state
@@ -216,6 +236,17 @@ final class Edges {
             for (int q = 0; q < got[ending].length; q++) {
                 due(name + ", then " + NAMES.get(q) + ENDINGS[ending], got[ending][q],
                         lastAnswers[ending][q]);
+            }
+        }
+    }
+
+    /** Two states answer alike, but for STATUS and what can be UNDONE. */
+    void sameNow(String name, Scene got, Scene want) {
+        int[] gotten = answers(got, null)[0];
+        int[] wanted = answers(want, null)[0];
+        for (int q = 0; q < gotten.length; q++) {
+            if (!NAMES.get(q).equals("count(1)")) {
+                due(name + ", then " + NAMES.get(q), gotten[q], wanted[q]);
             }
         }
     }

@@ -1,18 +1,15 @@
 import java.util.Arrays;
 
 /** The edges of promises 1 to 6 and 46: the TAPE, RULES as a TEXT, RULES WRITTEN. */
-public final class TapeEdgeTest {
-    private static final int NONE = Edges.NONE;
-    private static final String[] WORDS = {"age", "small", "grace", "floor", "rate", "fee", "cover"};
+public final class TapeEdgeTest extends Edges {
+    private static final String[] WORDS = {"age", "small", "grace", "floor", "rate", "fee",
+            "cover"};
     private static final int[] LEAST = {18, 0, 0, 0, 0, 0, 1};
     private static final int[] GREATEST = {25, 999, 359, 9999, 200, 100, 4};
     private static final int[] USUAL = {21, 40, 90, 100, 50, 25, 2};
     private static final String USUAL_WRITTEN =
             "age 21;small 40;grace 90;floor 100;rate 50;fee 25;cover 2";
     private static final int[] WILD = {Integer.MIN_VALUE, -1000000000, -2, Integer.MAX_VALUE};
-
-    private final Checks checks = new Checks();
-    private final Edges edges = new Edges(checks);
 
     public static void main(String[] args) {
         TapeEdgeTest test = new TapeEdgeTest();
@@ -54,10 +51,6 @@ public final class TapeEdgeTest {
         rulesWithAFault();
         allElseIsGone();
         ruleOfNoWhat();
-    }
-
-    private void due(String call, long got, long want) {
-        checks.due(call, got, want);
     }
 
     private static GuardRolls with(String text) {
@@ -112,8 +105,8 @@ public final class TapeEdgeTest {
         due("1: no IMAGE", new GuardRolls().back(), NONE);
         due("1: no ACT", new GuardRolls().undo(), NONE);
         due("1: the TAPE is empty", new GuardRolls().rules(), 0);
-        due("1: no WARD", new GuardRolls().money(0, 0), Edges.HIDDEN);
-        due("1: no GUARDIAN", new GuardRolls().liable(0, 0), Edges.HIDDEN);
+        due("1: no WARD", new GuardRolls().money(0, 0), HIDDEN);
+        due("1: no GUARDIAN", new GuardRolls().liable(0, 0), HIDDEN);
         due("1: first GUARDIAN", new GuardRolls().guardian(0), 0);
     }
 
@@ -191,14 +184,14 @@ public final class TapeEdgeTest {
                 due("2: is no ACT", x.status(i), 0);
             }
         }
-        Edges.Scene full = () -> {
+        Scene full = () -> {
             GuardRolls x = busy();
             Checks.tape(x, times(" ", 193) + "age 18;");
             x.end(199);
             return x;
         };
-        edges.not("2: too many", full, x -> x.feed(0, 0x37000000, 0, 0, 0x37), NONE);
-        edges.not("2: too many", full, x -> x.feed(-1, -1, -1, -1, -1), NONE);
+        not("2: too many", full, x -> x.feed(0, 0x37000000, 0, 0, 0x37), NONE);
+        not("2: too many", full, x -> x.feed(-1, -1, -1, -1, -1), NONE);
     }
 
     // ---- 3: "The TAPE has its first n bytes alone. False: n"
@@ -230,15 +223,15 @@ public final class TapeEdgeTest {
     }
 
     private void noSuchFirstBytes() {
-        Edges.Scene scene = TapeEdgeTest::busy;
+        Scene scene = TapeEdgeTest::busy;
         int[] not = {Integer.MIN_VALUE, -2, -1, 15, 16, 200, 201, Integer.MAX_VALUE};
         for (int n : not) {
-            edges.not("3: end(" + n + ")", scene, x -> x.end(n) ? 1 : 0, 0);
+            not("3: end(" + n + ")", scene, x -> x.end(n) ? 1 : 0, 0);
         }
-        edges.not("3: end(14) of 14", scene, x -> x.end(14) ? 1 : 0, 1);
+        not("3: end(14) of 14", scene, x -> x.end(14) ? 1 : 0, 1);
         for (int n = 0; n < 14; n++) {
             int first = n;
-            edges.answers("3: end(" + n + ")", scene, x -> x.end(first) ? 1 : 0, 1);
+            answers("3: end(" + n + ")", scene, x -> x.end(first) ? 1 : 0, 1);
         }
     }
 
@@ -287,7 +280,8 @@ public final class TapeEdgeTest {
             for (int number : in) {
                 oneRule(WORDS[i] + " " + number, i, number);
                 oneRule(WORDS[i] + number, i, number);
-                oneRule(WORDS[i] + " " + times("0", 4 - ("" + number).length()) + number, i, number);
+                oneRule(WORDS[i] + " " + times("0", 4 - ("" + number).length()) + number, i,
+                        number);
             }
             faultOf(WORDS[i] + " " + (GREATEST[i] + 1), first);
             faultOf(WORDS[i] + (GREATEST[i] + 1), first - 1);
@@ -466,14 +460,14 @@ public final class TapeEdgeTest {
     }
 
     private void faultChangesNothing() {
-        Edges.Scene scene = TapeEdgeTest::busy;
-        edges.not("4: no FAULT", scene, x -> x.fault(), NONE);
-        Edges.Scene faulty = () -> {
+        Scene scene = TapeEdgeTest::busy;
+        not("4: no FAULT", scene, x -> x.fault(), NONE);
+        Scene faulty = () -> {
             GuardRolls x = busy();
             feed(x, "4;");
             return x;
         };
-        edges.not("4: a FAULT", faulty, x -> x.fault(), 13);
+        not("4: a FAULT", faulty, x -> x.fault(), 13);
     }
 
     // ---- 5: rules
@@ -499,13 +493,13 @@ public final class TapeEdgeTest {
         for (int i = 0; i < bad.length; i++) {
             String text = bad[i];
             int place = places[i];
-            Edges.Scene scene = () -> {
+            Scene scene = () -> {
                 GuardRolls x = busy();
                 Checks.tape(x, text);
                 return x;
             };
-            edges.not("5: '" + text + "'", scene, x -> x.rules(), NONE);
-            edges.answers("5: '" + text + "' stays", scene, x -> x.rules() + x.fault(),
+            not("5: '" + text + "'", scene, x -> x.rules(), NONE);
+            answers("5: '" + text + "' stays", scene, x -> x.rules() + x.fault(),
                     NONE + place);
         }
     }
@@ -543,16 +537,16 @@ public final class TapeEdgeTest {
     // ---- 6: "NONE: no such what"
 
     private void ruleOfNoWhat() {
-        Edges.Scene scene = () -> {
+        Scene scene = () -> {
             GuardRolls x = busy();
             x.rules();
             return x;
         };
         int[] want = {21, 40, 90, 100, 50, 7, 4};
-        edges.told("6: rule", scene, 0, 6, what -> x -> x.rule(what), what -> want[what], NONE);
+        told("6: rule", scene, 0, 6, what -> x -> x.rule(what), what -> want[what], NONE);
         for (int what = 0; what < 7; what++) {
             int one = what;
-            edges.not("6: rule(" + what + ")", scene, x -> x.rule(one), want[what]);
+            not("6: rule(" + what + ")", scene, x -> x.rule(one), want[what]);
         }
     }
 
@@ -566,16 +560,16 @@ public final class TapeEdgeTest {
         for (int i = 0; i < texts.length; i++) {
             String rules = texts[i];
             String all = want[i];
-            Edges.Scene scene = () -> Checks.under(rules);
-            edges.answers("46: how many", scene, x -> x.written(NONE), all.length());
+            Scene scene = () -> Checks.under(rules);
+            answers("46: how many", scene, x -> x.written(NONE), all.length());
             for (int k = 0; k < all.length(); k++) {
                 int at = k;
-                edges.answers("46: written(" + k + ")", scene, x -> x.written(at), all.charAt(k));
+                answers("46: written(" + k + ")", scene, x -> x.written(at), all.charAt(k));
             }
-            edges.not("46: behind", scene, x -> x.written(all.length()), NONE);
-            edges.not("46: far behind", scene, x -> x.written(all.length() + 1), NONE);
+            not("46: behind", scene, x -> x.written(all.length()), NONE);
+            not("46: far behind", scene, x -> x.written(all.length() + 1), NONE);
             for (int wild : WILD) {
-                edges.not("46: written(" + wild + ")", scene, x -> x.written(wild), NONE);
+                not("46: written(" + wild + ")", scene, x -> x.written(wild), NONE);
             }
             rulesOf(all, 7, rulesIn(all));
         }

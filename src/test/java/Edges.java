@@ -110,7 +110,7 @@ abstract class Edges {
     }
 
     private static void askOfWards() {
-        int[] days = {0, 1, 99, 100, 359, 360, 700, 719, 720, 2000, 3599};
+        int[] days = {0, 1, 8, 9, 70, 80, 99, 100, 359, 360, 700, 719, 720, 2000, 3599};
         for (int i = 0; i < 4; i++) {
             int w = i;
             question("due(" + w + ")", x -> x.due(w));

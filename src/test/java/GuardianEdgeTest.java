@@ -1,3 +1,5 @@
+import java.util.function.IntFunction;
+
 /** The edges of the Terms' third block and of promises 32 to 45: GUARDIANS, disputes, saving. */
 public final class GuardianEdgeTest extends Edges {
     private static final int[] WILD = {Integer.MIN_VALUE, -1000000000, -2, Integer.MAX_VALUE};
@@ -260,6 +262,11 @@ public final class GuardianEdgeTest extends Edges {
         Scene cut = but(under("small 0;grace 0;floor 0;rate 100;fee 0"),
                 x -> x.receive(0, 0, 3599, 0), x -> x.change(0, 359, 1), x -> x.close(0));
         liableIs("each is cut", cut, 1, 358, 0, 0);
+        // 1799 of 1800 are not the CHARGE of 1, nor is 1; all 1800 are.
+        Scene one = but(under("small 0;grace 0;floor 0;rate 200;fee 0"), x -> x.receive(0, 0, 5, 0),
+                x -> x.receive(0, 358, 4, 0), x -> x.pay(0, 359, 8, 2, 1));
+        liableIs("all of 1", but(one, x -> x.close(0)), 1, 1, 0, 0);
+        liableIs("nearly 1", but(one, x -> x.change(0, 359, 1), x -> x.close(0)), 1, 0, 0, 0);
     }
 
     /** "0, if there is none" */
@@ -296,7 +303,7 @@ public final class GuardianEdgeTest extends Edges {
 
     // ---- 35 to 37: how many, the k-th
 
-    private void listIs(String name, Scene scene, java.util.function.IntFunction<Call> ask,
+    private void listIs(String name, Scene scene, IntFunction<Call> ask,
             int... want) {
         not(name + ", how many", scene, ask.apply(NONE), want.length);
         for (int k = 0; k < want.length; k++) {
@@ -414,6 +421,13 @@ public final class GuardianEdgeTest extends Edges {
             }
             return 0;
         });
+        Scene far = but(BARE, x -> x.pay(0, 0, 3, 2, 0), x -> x.pay(0, 3598, 4, 2, 0),
+                x -> x.pay(0, 3599, 5, 2, 0));
+        int[] few = {3, 3, 3, 2, 2, 2, 2, 1, 1, 1, 1, 1, 0, 0};
+        for (int n = 0; n < few.length; n++) {
+            int left = n;
+            answers("38: from the first DAY to the last", far, x -> x.needed(0, left), few[n]);
+        }
         answers("38: all forty", forty, x -> x.needed(0, 0), 40);
         answers("38: all but one", forty, x -> x.needed(0, 99999), 39);
         answers("38: nearly all", forty, x -> x.needed(0, 40 * 99999 - 1), 1);

@@ -32,6 +32,8 @@ public final class MoneyEdgeTest extends Edges {
         ordersTogether();
         allOrWhatIsLeft();
         byDaysThenNumbers();
+        toldFromTheLast();
+        orderBehindPayments();
         notOfTheAllowance();
         moneyAtTheEndOfADay();
         whatClosedYearsBrought();
@@ -252,6 +254,40 @@ public final class MoneyEdgeTest extends Edges {
         answers("ALLOWED: DAY 0 takes all", first, x -> x.payment(2, 0), 100);
         answers("ALLOWED: DAY 0 takes all", first, x -> x.payment(0, 0), 0);
         answers("ALLOWED: MONEY goes with it", first, x -> x.money(0, 100), -100);
+    }
+
+    /** What is told last may be the first to take: ten PAYMENTS, told from the last DAY on. */
+    private void toldFromTheLast() {
+        Scene ten = but(hundredAllowed(), x -> {
+            for (int i = 0; i < 10; i++) {
+                x.pay(0, 90 - i / 2, 30, 0, i + 1);
+            }
+            return 0;
+        });
+        // DAY 86: 8, 9; DAY 87: 6, 7.
+        int[] want = {0, 0, 0, 0, 0, 0, 30, 10, 30, 30};
+        for (int i = 0; i < want.length; i++) {
+            int number = i;
+            answers("ALLOWED: told from the last, " + i, ten, x -> x.payment(number, 0), want[i]);
+        }
+        answers("ALLOWED: UNDONE", but(ten, x -> x.undo()), x -> x.payment(7, 0), 30);
+        answers("ALLOWED: UNDONE", but(ten, x -> x.undo()), x -> x.payment(4, 0), 10);
+    }
+
+    /** An ORDER counts for PAYMENTS that were there, and no more when it is UNDONE. */
+    private void orderBehindPayments() {
+        Scene paid = but(BARE, x -> x.pay(0, 5, 100, 0, 1));
+        answers("ALLOWED: no ORDER yet", paid, x -> x.payment(0, 0), 0);
+        Scene ordered = but(paid, x -> x.order(0, 0, 0, 359, 60));
+        answers("ALLOWED: by an ORDER behind it", ordered, x -> x.payment(0, 0), 60);
+        answers("MONEY: by an ORDER behind it", ordered, x -> x.money(0, 5), -60);
+        Scene two = but(ordered, x -> x.order(0, 0, 0, 359, 60));
+        answers("ALLOWED: by two", two, x -> x.payment(0, 0), 100);
+        answers("ALLOWED: one UNDONE", but(two, x -> x.undo()), x -> x.payment(0, 0), 60);
+        answers("ALLOWED: both UNDONE", but(two, x -> x.undo(), x -> x.undo()),
+                x -> x.payment(0, 0), 0);
+        answers("ALLOWED: RATIFIED UNDONE", but(ordered, x -> x.ratify(0), x -> x.undo()),
+                x -> x.payment(0, 0), 60);
     }
 
     /** What takes nothing of an ALLOWANCE: RATIFIED, not BACKED, of another WARD, kind or YEAR. */
@@ -598,6 +634,13 @@ public final class MoneyEdgeTest extends Edges {
         int[] want = {1, 0, 1, 1, 0};
         told("26: what", FORTY, 0, 4, w -> x -> x.payment(3, w), w -> want[w], NONE);
         answers("26: what 2", FORTY, x -> x.payment(3, 2), 1);
+        paymentIs("GOOD", x -> x.pay(0, 5, 9, 2, 40), 9, 0, 1, 1, 0);
+        paymentIs("not BACKED", x -> x.pay(0, 5, 9, 2, 0), 0, 9, 0, 0, 0);
+        paymentIs("GOOD, nothing ALLOWED", x -> x.pay(0, 5, 9, 1, 40), 0, 9, 1, 1, 0);
+        paymentIs("GOOD, partly ALLOWED", x -> x.order(0, 1, 0, 359, 4)
+                + x.pay(0, 5, 9, 1, 40), 4, 5, 1, 1, 0);
+        paymentIs("RATIFIED", x -> x.ratify(x.pay(0, 5, 9, 1, 0)), 9, 0, 0, 1, 1);
+        paymentIs("GOOD, RATIFIED", x -> x.ratify(x.pay(0, 5, 9, 1, 40)), 9, 0, 1, 1, 1);
         for (int what = -1; what < 6; what++) {
             int w = what;
             not("26: a RECEIPT", FORTY, x -> x.payment(0, w), NONE);
@@ -606,6 +649,13 @@ public final class MoneyEdgeTest extends Edges {
             not("26: nobody", NOBODY, x -> x.payment(0, w), NONE);
         }
         not("26: it is UNDONE", but(FORTY, x -> x.undo()), x -> x.payment(39, 0), NONE);
+    }
+
+    private void paymentIs(String name, Call call, int... want) {
+        for (int what = 0; what < 5; what++) {
+            int w = what;
+            answers("26: " + name + ", " + w, but(BARE, call), x -> x.payment(0, w), want[w]);
+        }
     }
 
     // ---- 27 to 29

@@ -1,3 +1,5 @@
+import java.util.Arrays;
+
 /** The edges of promises 47 to 52: ACTS UNDONE, the IMAGE, STATUS, who has most, how many. */
 public final class MoreEdgeTest extends Edges {
     private static final Scene BARE =
@@ -35,7 +37,7 @@ public final class MoreEdgeTest extends Edges {
 
     /** The first so many ACTS. */
     private static Scene acted(int many) {
-        return but(BARE, java.util.Arrays.copyOf(ACTS, many));
+        return but(BARE, Arrays.copyOf(ACTS, many));
     }
 
     private static Call undone(int times) {
@@ -164,34 +166,62 @@ public final class MoreEdgeTest extends Edges {
                 x -> x.back()), x -> x.count(3), 0);
         for (int kept = 0; kept <= ACTS.length; kept++) {
             Scene image = but(acted(kept), x -> x.image());
-            Call[] later = java.util.Arrays.copyOfRange(ACTS, kept, ACTS.length);
+            Call[] later = Arrays.copyOfRange(ACTS, kept, ACTS.length);
             Scene behind = but(image, later);
             String name = "49: IMAGE behind " + kept;
-            sameNow(name, but(behind, x -> x.back()), but(acted(kept), noUndo()));
-            sameNow(name + ", at once", but(image, x -> x.back()), but(acted(kept), noUndo()));
+            sameNow(name, but(behind, x -> x.back()), acted(kept));
+            sameNow(name + ", at once", but(image, x -> x.back()), acted(kept));
             sameNow(name + ", twice", but(behind, x -> x.back(), x -> x.guardian(1), x -> x.back()),
-                    but(acted(kept), noUndo()));
+                    acted(kept));
             sameNow(name + ", told again", but(but(behind, x -> x.back()), later),
-                    but(but(acted(kept), noUndo()), later));
+                    acted(ACTS.length));
             sameNow(name + ", UNDONE behind it", but(image, undone(4), x -> x.guardian(9),
                     x -> x.ward(5, 0), x -> x.receive(0, 3000, 8, 0), x -> x.back()),
-                    but(acted(kept), noUndo()));
+                    acted(kept));
             not(name + ", no UNDO", but(behind, x -> x.back()), x -> x.undo(), NONE);
             answers(name + ", an ACT", but(behind, x -> x.back(), x -> x.bond(0, 55)),
                     x -> x.undo(), 0);
         }
+        toldInItsPlace();
+        toldOtherwise();
         Scene anew = but(acted(8), x -> x.image(), x -> x.end(0) ? x.rules() : 0);
         not("49: RULES told anew", anew, x -> x.back(), NONE);
         answers("49: STATUS stays", but(BARE, x -> x.image(), x -> x.guardian(-1),
                 x -> x.back()), x -> x.status(1), 1);
     }
 
-    /** The same state with no ACT that can be UNDONE. */
-    private static Call noUndo() {
-        return x -> {
-            x.image();
-            return x.back();
-        };
+    /** What is told in the place of what came behind the IMAGE has nothing of that. */
+    private void toldInItsPlace() {
+        Scene back = but(BARE, x -> x.image(), x -> x.pay(0, 0, 9, 2, 5), x -> x.ratify(0),
+                x -> x.order(0, 0, 0, 359, 8), x -> x.ward(5, 0), x -> x.change(1, 7, 1),
+                x -> x.close(1), x -> x.back(), x -> x.pay(0, 5, 9, 2, 0),
+                x -> x.order(0, 1, 0, 359, 4), x -> x.ward(6, 1));
+        sameNow("49: told in its place", back, but(BARE, x -> x.pay(0, 5, 9, 2, 0),
+                x -> x.order(0, 1, 0, 359, 4), x -> x.ward(6, 1)));
+        Scene undone = but(BARE, x -> x.pay(0, 0, 9, 2, 5), x -> x.ratify(0),
+                x -> x.order(0, 0, 0, 359, 8), x -> x.ward(5, 0), x -> x.change(1, 7, 1),
+                x -> x.close(1), undone(6), x -> x.pay(0, 5, 9, 2, 0),
+                x -> x.order(0, 1, 0, 359, 4), x -> x.ward(6, 1));
+        sameNow("47: told in its place", undone, but(BARE, x -> x.pay(0, 5, 9, 2, 0),
+                x -> x.order(0, 1, 0, 359, 4), x -> x.ward(6, 1)));
+    }
+
+    /** What is UNDONE behind the IMAGE, and told otherwise, comes BACK as it was. */
+    private void toldOtherwise() {
+        Scene kept = but(BARE, x -> x.ward(-9000, 1), x -> x.order(0, 0, 0, 359, 8),
+                x -> x.receive(0, 0, 3600, 0), x -> x.pay(0, 5, 9, 0, 4), x -> x.change(0, 9, 1),
+                x -> x.change(0, 70, 0), x -> x.close(0), x -> x.image());
+        Scene back = but(kept, undone(7), x -> x.ward(3, 0), x -> x.order(1, 1, 360, 719, 80),
+                x -> x.pay(1, 360, 90, 1, 6), x -> x.receive(0, 1, 7200, 3),
+                x -> x.change(0, 8, 1), x -> x.change(0, 80, 0), x -> x.close(0), x -> x.back());
+        sameNow("49: told otherwise", back, kept);
+        answers("49: CHANGES", back, x -> x.whose(0, 8), 0);
+        answers("49: CHANGES", back, x -> x.whose(0, 70), 0);
+        answers("49: CHARGE", back, x -> x.charge(0, 0), 359);
+        answers("49: COMMISSION", back, x -> x.commission(0, 0), 180);
+        answers("49: ORDER", back, x -> x.allowance(0, 0, 0), 8);
+        sameNow("49: and once more", but(back, x -> x.order(0, 0, 360, 719, 5), x -> x.close(0),
+                x -> x.back()), kept);
     }
 
     // ---- 50

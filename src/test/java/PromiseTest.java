@@ -222,8 +222,8 @@ public final class PromiseTest {
             "age ;", "age 21 22", "age 21x", "age 21;;", ";", "age 21; age 22", "age",
             "age  ", "age 21;", "age 21; ", "age -1", "age\n21", "7 age", "age 21,small 3", "ag",
             "  cover", " cover 2 : ", "agesmall 3", "age 21 ;\u00e9", "cover 00", "floor  12345;"};
-        int[] places = {0, 0, 0, 4, 4, 6, 6, 6, 5, 4, 6, 6, 4, 4, 4, 7, 6, 7, 0, 8, 3, 5, 7, 8, 4, 3,
-            0, 6, 0, 7, 9, 0, 8, 6, 7};
+        int[] places = {0, 0, 0, 4, 4, 6, 6, 6, 5, 4, 6, 6, 4, 4, 4, 7, 6, 7, 0, 8, 3, 5, 7, 8, 4,
+            3, 0, 6, 0, 7, 9, 0, 8, 6, 7};
         due("4: as many", bad.length, places.length);
         for (int i = 0; i < bad.length; i++) {
             faultOf(bad[i], places[i]);

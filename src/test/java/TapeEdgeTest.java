@@ -81,6 +81,7 @@ public final class TapeEdgeTest extends Edges {
         x.receive(0, 0, 5000, 0);
         x.image();
         x.pay(0, 5, 70, 2, 3);
+        x.ratify(1);
         x.order(0, 0, 0, 3599, 60);
         x.change(0, 100, 0);
         x.close(0);
@@ -530,6 +531,9 @@ public final class TapeEdgeTest extends Edges {
             due("5: the first VOUCHER", x.pay(0, 5, 999, 2, 3), 0);
             due("5: is GOOD", x.payment(0, 2), 1);
             due("5: not RATIFIED", x.payment(0, 4), 0);
+            due("5: the second", x.pay(0, 5, 999, 2, 3), 1);
+            due("5: not RATIFIED", x.payment(1, 4), 0);
+            due("5: not ALLOWED", x.payment(1, 0), 0);
             due("5: no CHANGE", x.change(0, 100, 0), NONE);
         }
     }

@@ -151,6 +151,21 @@ public final class MoreEdgeTest extends Edges {
                     x -> x.receive(0, 0, 5, 0), x -> x.image(), x -> x.receive(0, 0, 5, 0)),
                     x -> x.back(), 1);
         }
+        Scene full = but(BARE, x -> x.ward(0, 1), x -> x.ward(1, 1), x -> x.ward(2, 1), x -> {
+            for (int i = 0; i < 12; i++) {
+                x.order(i % 4, i % 2, 0, 359, i + 1);
+                x.change(3, i, i % 2);
+            }
+            for (int i = 0; i < 40; i++) {
+                x.pay(i % 4, i, 10, i % 2, i);
+            }
+            for (int i = 0; i < 10; i++) {
+                x.close(3);
+            }
+            return x.guardian(5);
+        });
+        answers("48: full", full, x -> x.image(), 40);
+        sameNow("48: full, and BACK", but(full, x -> x.image(), undone(10), x -> x.back()), full);
         answers("48: can be UNDONE behind it", but(acted(7), x -> x.image()), x -> x.undo(), 9);
         sameNow("48: UNDONE behind it", but(acted(8), x -> x.image(), undone(3)), acted(5));
     }
@@ -208,12 +223,12 @@ public final class MoreEdgeTest extends Edges {
 
     /** What is UNDONE behind the IMAGE, and told otherwise, comes BACK as it was. */
     private void toldOtherwise() {
-        Scene kept = but(BARE, x -> x.ward(-9000, 1), x -> x.order(0, 0, 0, 359, 8),
-                x -> x.receive(0, 0, 3600, 0), x -> x.pay(0, 5, 9, 0, 4), x -> x.change(0, 9, 1),
+        Scene kept = but(BARE, x -> x.guardian(9), x -> x.ward(-9000, 1),
+                x -> x.order(0, 0, 0, 359, 8), x -> x.receive(0, 0, 3600, 0), x -> x.pay(0, 5, 9, 0, 4), x -> x.change(0, 9, 1),
                 x -> x.change(0, 70, 0), x -> x.close(0), x -> x.image());
         Scene back = but(kept, undone(7), x -> x.ward(3, 0), x -> x.order(1, 1, 360, 719, 80),
                 x -> x.pay(1, 360, 90, 1, 6), x -> x.receive(0, 1, 7200, 3),
-                x -> x.change(0, 8, 1), x -> x.change(0, 80, 0), x -> x.close(0), x -> x.back());
+                x -> x.change(0, 8, 2), x -> x.change(0, 80, 1), x -> x.close(0), x -> x.back());
         sameNow("49: told otherwise", back, kept);
         answers("49: CHANGES", back, x -> x.whose(0, 8), 0);
         answers("49: CHANGES", back, x -> x.whose(0, 70), 0);

@@ -224,8 +224,9 @@ public final class MoreEdgeTest extends Edges {
     /** What is UNDONE behind the IMAGE, and told otherwise, comes BACK as it was. */
     private void toldOtherwise() {
         Scene kept = but(BARE, x -> x.guardian(9), x -> x.ward(-9000, 1),
-                x -> x.order(0, 0, 0, 359, 8), x -> x.receive(0, 0, 3600, 0), x -> x.pay(0, 5, 9, 0, 4), x -> x.change(0, 9, 1),
-                x -> x.change(0, 70, 0), x -> x.close(0), x -> x.image());
+                x -> x.order(0, 0, 0, 359, 8), x -> x.receive(0, 0, 3600, 0),
+                x -> x.pay(0, 5, 9, 0, 4), x -> x.change(0, 9, 1), x -> x.change(0, 70, 0),
+                x -> x.close(0), x -> x.image());
         Scene back = but(kept, undone(7), x -> x.ward(3, 0), x -> x.order(1, 1, 360, 719, 80),
                 x -> x.pay(1, 360, 90, 1, 6), x -> x.receive(0, 1, 7200, 3),
                 x -> x.change(0, 8, 2), x -> x.change(0, 80, 1), x -> x.close(0), x -> x.back());

@@ -469,6 +469,7 @@ public final class ActEdgeTest extends Edges {
         bounds("16: PAYMENT", TWO, 2, 4, n -> x -> x.ratify(n), n -> isRatified[n - 2],
                 UNKNOWN);
         refused("16: a RECEIPT", TWO, x -> x.ratify(0), UNKNOWN);
+        refused("16: ahead of the first", TWO, x -> x.ratify(-1), UNKNOWN);
         Scene laid = but(TWO, x -> x.layOut(0, 0, 5), x -> x.callIn(0, 0, 5));
         refused("16: LAID OUT", laid, x -> x.ratify(5), UNKNOWN);
         refused("16: CALLED IN", laid, x -> x.ratify(6), UNKNOWN);

@@ -262,6 +262,11 @@ public final class GuardianEdgeTest extends Edges {
         Scene cut = but(under("small 0;grace 0;floor 0;rate 100;fee 0"),
                 x -> x.receive(0, 0, 3599, 0), x -> x.change(0, 359, 1), x -> x.close(0));
         liableIs("each is cut", cut, 1, 358, 0, 0);
+        // YEAR 0: 180 DAYS of 3600, all the first one's; YEAR 1: 360 of 180, all the second's.
+        Scene half = but(under("small 0;grace 0;floor 0;rate 100;fee 0"),
+                x -> x.receive(0, 0, 3600, 0), x -> x.pay(0, 180, 3600, 2, 1),
+                x -> x.change(0, 180, 1), x -> x.close(0), x -> x.close(0));
+        liableIs("each YEAR by its own IDLE", half, 1, 180, 18, 0);
         // 1799 of 1800 are not the CHARGE of 1, nor is 1; all 1800 are.
         Scene one = but(under("small 0;grace 0;floor 0;rate 200;fee 0"), x -> x.receive(0, 0, 5, 0),
                 x -> x.receive(0, 358, 4, 0), x -> x.pay(0, 359, 8, 2, 1));

@@ -643,6 +643,8 @@ public final class MoneyEdgeTest extends Edges {
         paymentIs("GOOD, RATIFIED", x -> x.ratify(x.pay(0, 5, 9, 1, 40)), 9, 0, 1, 1, 1);
         for (int what = -1; what < 6; what++) {
             int w = what;
+            not("26: ahead of the first", FORTY, x -> x.payment(-1, w), NONE);
+            not("26: behind the last", FORTY, x -> x.payment(40, w), NONE);
             not("26: a RECEIPT", FORTY, x -> x.payment(0, w), NONE);
             not("26: LAID OUT", FORTY, x -> x.payment(1, w), NONE);
             not("26: CALLED IN", FORTY, x -> x.payment(2, w), NONE);
@@ -712,6 +714,9 @@ public final class MoneyEdgeTest extends Edges {
         answers("27: YEAR 2", one, x -> x.account(0, 2, 0), 1050);
         answers("27: YEAR 1 would bring", one, x -> x.account(0, 1, 7), 1155);
         answers("27: YEAR 0 brought", one, x -> x.account(0, 0, 7), 1050);
+        Scene undone = but(one, x -> x.undo());
+        answers("27: YEAR 0 isn't CLOSED any more", undone, x -> x.account(0, 1, 0), 1000);
+        answers("27: YEAR 0 isn't CLOSED any more", undone, x -> x.account(0, 1, 7), 1100);
     }
 
     private void month() {

@@ -329,6 +329,10 @@ public final class TapeEdgeTest extends Edges {
             faultOf(word.substring(0, 2), 0);
             faultOf("a" + word, 0);
             faultOf(word + "z 18", 0);
+            for (int at = 0; at < word.length(); at++) {
+                char other = word.charAt(at) == 'z' ? 'a' : (char) (word.charAt(at) + 1);
+                faultOf(word.substring(0, at) + other + word.substring(at + 1) + " 18", 0);
+            }
         }
         faultOf("ag e 18", 0);
         faultOf("smallgrace 5", 0);
